@@ -1,0 +1,133 @@
+import java.lang.reflect.Method;
+import java.util.ArrayList;
+import java.util.Arrays;
+import java.util.List;
+import java.util.Random;
+
+/** Runs of 512 calls, ordinary and wild ones, on OrchardBook and on PlainBook: their answers are the same. */
+public final class RandomRunTests {
+    private static final int RUNS = 600;
+    private static final int CALLS = 512;
+    private static final int[] WILD = {Integer.MIN_VALUE, Integer.MAX_VALUE, -1, -2, 0, 1, 5, 6, 7, 9, 10, 11, 12, 15,
+        16, 49, 50, 51, 60, 61, 100, 101, 1000, 1001, 2000, 2001, 65535, -65536};
+
+    private static final Due due = new Due();
+
+    /** A call's name, how often it comes, and for each number its least and most ordinary value. */
+    private record Shape(String name, int weight, int... bounds) { }
+
+    private static final List<Shape> SHAPES = List.of(
+        new Shape("sort", 4, 0, 300, 1, 9, 0, 200, 1, 60, 0, 2), new Shape("takes", 8, 0, 5, 0, 5),
+        new Shape("at", 4, 0, 11, 0, 15, 0, 5), new Shape("distance", 2, 1, 15),
+        new Shape("plant", 14, 0, 11, 1, 4, 0, 5, 0, 5), new Shape("pull", 2, 0, 11, 0, 3),
+        new Shape("as", 1, 0, 11, 1, 5), new Shape("of", 8, 0, 11, 0, 7), new Shape("cut", 1, 0, 11, 0, 3),
+        new Shape("sheet", 3, 0, 3, 0, 2, 0, 50), new Shape("put", 12, 0, 3, 0, 20, -5, 70),
+        new Shape("copy", 3, 0, 3, 0, 20, 0, 3, 0, 20, 0, 20), new Shape("name", 4, -1, 3),
+        new Shape("warmth", 4, 0, 49), new Shape("sum", 2, 0, 49), new Shape("blooms", 3, 0, 5),
+        new Shape("frost", 4, 0, 49, 0, 6, 0, 100), new Shape("partners", 8, 0, 11, 0, 1, 0, 30),
+        new Shape("go", 14, 1, 20), new Shape("fruits", 8, 0, 11, 0, 1), new Shape("thin", 2, 0, 11, 0, 30),
+        new Shape("hours", 2, 0, 200), new Shape("store", 3, 0, 5), new Shape("take", 3, 0, 5, 0, 60),
+        new Shape("all", 6, 0, 9), new Shape("lone", 3, 0, 11), new Shape("best", 1), new Shape("given", 4, 0, 11),
+        new Shape("keep", 1), new Shape("back", 1), new Shape("told", 3, 0, 4));
+
+    public static void main(String[] args) throws Exception {
+        for (int run = 0; run < RUNS && due.wrong() == 0; run++) {
+            oneRun(run);
+        }
+        due.end();
+    }
+
+    private static void oneRun(int seed) throws Exception {
+        Random random = new Random(seed);
+        // Some runs hardly ever go wrong, others often.
+        int wildness = seed % 3 == 0 ? 5 : 60;
+        OrchardBook book = new OrchardBook();
+        PlainBook plain = new PlainBook();
+        List<String> calls = new ArrayList<>();
+        for (int k = 0; k < CALLS && due.wrong() == 0; k++) {
+            Shape shape = k < 6 && seed % 5 != 0 ? SHAPES.get(0) : anyShape(random);
+            Method onBook = methodOf(OrchardBook.class, shape.name());
+            Method onPlain = methodOf(PlainBook.class, shape.name());
+            Object[] numbers = numbersFor(shape, onBook.getParameterCount(), random, wildness);
+            calls.add(shape.name() + Arrays.toString(numbers));
+            long got = ((Number) onBook.invoke(book, numbers)).longValue();
+            long want = ((Number) onPlain.invoke(plain, numbers)).longValue();
+            due.is("run " + seed + ", call " + k + ": " + calls.get(k), got, want);
+            if (k % 16 == 0) {
+                balance(book, "run " + seed + ", call " + k);
+            }
+        }
+        if (due.wrong() != 0) {
+            System.out.println(calls);
+        }
+    }
+
+    /** Each fruit that was set is somewhere, and so is each that was picked. */
+    private static void balance(OrchardBook x, String where) {
+        long gone = x.all(1) + x.all(2) + x.all(3) + x.all(4) + x.all(5) + x.all(6);
+        due.is(where + ": fruits set", x.all(0), gone);
+        due.is(where + ": fruits picked", x.all(2), x.all(7) + x.all(8) + x.all(9));
+        due.holds(where + ": the store is too full", x.all(9) <= 1000);
+    }
+
+    private static Shape anyShape(Random random) {
+        int all = 0;
+        for (Shape s : SHAPES) {
+            all += s.weight();
+        }
+        int at = random.nextInt(all);
+        for (Shape s : SHAPES) {
+            at -= s.weight();
+            if (at < 0) {
+                return s;
+            }
+        }
+        return SHAPES.get(0);
+    }
+
+    private static Method methodOf(Class<?> owner, String name) {
+        for (Method m : owner.getDeclaredMethods()) {
+            if (m.getName().equals(name) && java.lang.reflect.Modifier.isPublic(m.getModifiers())) {
+                return m;
+            }
+        }
+        throw new IllegalStateException(name);
+    }
+
+    private static Object[] numbersFor(Shape shape, int count, Random random, int wildness) {
+        Object[] numbers = new Object[count];
+        for (int k = 0; k < count; k++) {
+            if (2 * k >= shape.bounds().length) {
+                numbers[k] = random.nextInt(4) != 0;
+            } else if (random.nextInt(wildness) == 0) {
+                numbers[k] = WILD[random.nextInt(WILD.length)];
+            } else {
+                int low = shape.bounds()[2 * k];
+                numbers[k] = low + random.nextInt(shape.bounds()[2 * k + 1] - low + 1);
+            }
+        }
+        if (shape.name().equals("put")) {
+            numbers[2] = numberForSheet(random);
+        }
+        if (shape.name().equals("sheet") && random.nextInt(3) != 0) {
+            numbers[2] = 30 + random.nextInt(21);
+        }
+        return numbers;
+    }
+
+    /** Bits of floats near the bounds, of no numbers, of anything, and small numbers for shorts. */
+    private static int numberForSheet(Random random) {
+        switch (random.nextInt(6)) {
+            case 0:
+                return random.nextInt();
+            case 1:
+                return 0x7f800000 + random.nextInt(3) - 1 + (random.nextBoolean() ? 0x80000000 : 0);
+            case 2:
+                return 0x7fc00000;
+            case 3:
+                return random.nextInt(70) - 4;
+            default:
+                return Float.floatToRawIntBits(random.nextFloat() * 72 - 6);
+        }
+    }
+}
