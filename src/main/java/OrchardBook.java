@@ -634,14 +634,6 @@ public final class OrchardBook {
             return Math.min(year - planted, kind == TRAINED ? 1 : MOST_HEIGHT);
         }
 
-        int budsIn(int year, int firstYears) {
-            if (year - planted < firstYears) {
-                return 0;
-            }
-            int buds = Math.max(0, 20 * wood - load / 2);
-            return kind == TRAINED ? buds + buds / 2 : buds;
-        }
-
         /** What of a tree's buds is a part's. */
         int shareOfBuds(int part, int buds) {
             if (kind != GRAFTED) {
@@ -894,7 +886,11 @@ public final class OrchardBook {
         }
 
         int budsOf(Place p) {
-            return p.budsIn(year, sorts[p.mainSort].first);
+            if (year - p.planted < sorts[p.mainSort].first) {
+                return 0;
+            }
+            int buds = Math.max(0, 20 * p.wood - p.load / 2);
+            return p.kind == TRAINED ? buds + buds / 2 : buds;
         }
 
         /** A place is near itself. */

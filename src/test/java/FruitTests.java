@@ -394,6 +394,11 @@ public final class FruitTests {
         x.go(1);
         due.is("24 for 60 days", x.store(0), 0);
         due.is("26 spoiled", x.all(7), 5);
+        x.go(38);
+        x.go(50);
+        x.go(50);
+        due.is("26 spoiled once", x.all(7), 5);
+        due.is("24 none", x.store(0), 0);
     }
 
     private static void take() {

@@ -38,7 +38,8 @@ public final class LanguageTests {
         due.holds("1 public and final", Modifier.isPublic(c.getModifiers()) && Modifier.isFinal(c.getModifiers()));
         due.holds("1 one constructor", c.getDeclaredConstructors().length == 1);
         for (Constructor<?> made : c.getDeclaredConstructors()) {
-            due.holds("1 public, without numbers", Modifier.isPublic(made.getModifiers()) && made.getParameterCount() == 0);
+            boolean isPublic = Modifier.isPublic(made.getModifiers());
+            due.holds("1 public, without numbers", isPublic && made.getParameterCount() == 0);
         }
         Set<String> seen = new TreeSet<>();
         Set<String> names = new TreeSet<>();

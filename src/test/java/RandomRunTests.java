@@ -24,11 +24,11 @@ public final class RandomRunTests {
         new Shape("sheet", 3, 0, 3, 0, 2, 0, 50), new Shape("put", 12, 0, 3, 0, 20, -5, 70),
         new Shape("copy", 3, 0, 3, 0, 20, 0, 3, 0, 20, 0, 20), new Shape("name", 4, -1, 3),
         new Shape("warmth", 4, 0, 49), new Shape("sum", 2, 0, 49), new Shape("blooms", 3, 0, 5),
-        new Shape("frost", 4, 0, 49, 0, 6, 0, 100), new Shape("partners", 8, 0, 11, 0, 1, 0, 30),
+        new Shape("frost", 6, 0, 30, 0, 6, 0, 100), new Shape("partners", 8, 0, 11, 0, 1, 0, 30),
         new Shape("go", 14, 1, 20), new Shape("fruits", 8, 0, 11, 0, 1), new Shape("thin", 2, 0, 11, 0, 30),
         new Shape("hours", 2, 0, 200), new Shape("store", 3, 0, 5), new Shape("take", 3, 0, 5, 0, 60),
         new Shape("all", 6, 0, 9), new Shape("lone", 3, 0, 11), new Shape("best", 1), new Shape("given", 4, 0, 11),
-        new Shape("keep", 1), new Shape("back", 1), new Shape("told", 3, 0, 4));
+        new Shape("keep", 3), new Shape("back", 3), new Shape("told", 3, 0, 4));
 
     public static void main(String[] args) throws Exception {
         for (int run = 0; run < RUNS && due.wrong() == 0; run++) {

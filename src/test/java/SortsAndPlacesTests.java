@@ -13,6 +13,7 @@ public final class SortsAndPlacesTests {
         distance();
         plant();
         pull();
+        plantAnew();
         as();
         of();
         ofByYears();
@@ -201,6 +202,25 @@ public final class SortsAndPlacesTests {
         x.pull(0, 3);
         x.go(50);
         due.is("7 one year less", x.of(0, 1), 2);
+    }
+
+    private static void plantAnew() {
+        OrchardBook x = new OrchardBook();
+        x.sort(0, 1, 2000, 60, 0);
+        x.takes(0, 0, true);
+        x.plant(0, 1, 0, 0);
+        x.go(50);
+        due.is("6 LOAD", x.of(0, 5), 20);
+        x.go(1);
+        x.pull(0, 0);
+        x.plant(0, 2, 0, 0);
+        due.is("6 a new tree's year", x.of(0, 3), 1);
+        due.is("6 a new tree's WOOD", x.of(0, 4), 3);
+        due.is("6 a new tree's LOAD", x.of(0, 5), 0);
+        due.is("6 a new tree's HEIGHT", x.of(0, 6), 0);
+        due.is("6 a new tree's fruits", x.fruits(0, 0) + x.fruits(0, 1), 0);
+        x.go(49);
+        due.is("6 what the old tree set is not its LOAD", x.of(0, 5), 0);
     }
 
     private static void as() {
