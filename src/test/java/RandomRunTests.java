@@ -1,4 +1,3 @@
-import java.lang.reflect.Method;
 import java.util.ArrayList;
 import java.util.Arrays;
 import java.util.List;
@@ -30,14 +29,14 @@ public final class RandomRunTests {
         new Shape("all", 6, 0, 9), new Shape("lone", 3, 0, 11), new Shape("best", 1), new Shape("given", 4, 0, 11),
         new Shape("keep", 3), new Shape("back", 3), new Shape("told", 3, 0, 4));
 
-    public static void main(String[] args) throws Exception {
+    public static void main(String[] args) {
         for (int run = 0; run < RUNS && due.wrong() == 0; run++) {
             oneRun(run);
         }
         due.end();
     }
 
-    private static void oneRun(int seed) throws Exception {
+    private static void oneRun(int seed) {
         Random random = new Random(seed);
         // Some runs hardly ever go wrong, others often.
         int wildness = seed % 3 == 0 ? 5 : 60;
@@ -46,12 +45,11 @@ public final class RandomRunTests {
         List<String> calls = new ArrayList<>();
         for (int k = 0; k < CALLS && due.wrong() == 0; k++) {
             Shape shape = k < 6 && seed % 5 != 0 ? SHAPES.get(0) : anyShape(random);
-            Method onBook = methodOf(OrchardBook.class, shape.name());
-            Method onPlain = methodOf(PlainBook.class, shape.name());
-            Object[] numbers = numbersFor(shape, onBook.getParameterCount(), random, wildness);
+            int count = Calls.methodOf(OrchardBook.class, shape.name()).getParameterCount();
+            Object[] numbers = numbersFor(shape, count, random, wildness);
             calls.add(shape.name() + Arrays.toString(numbers));
-            long got = ((Number) onBook.invoke(book, numbers)).longValue();
-            long want = ((Number) onPlain.invoke(plain, numbers)).longValue();
+            long got = Calls.call(book, shape.name(), numbers);
+            long want = Calls.call(plain, shape.name(), numbers);
             due.is("run " + seed + ", call " + k + ": " + calls.get(k), got, want);
             if (k % 16 == 0) {
                 balance(book, "run " + seed + ", call " + k);
@@ -83,15 +81,6 @@ public final class RandomRunTests {
             }
         }
         return SHAPES.get(0);
-    }
-
-    private static Method methodOf(Class<?> owner, String name) {
-        for (Method m : owner.getDeclaredMethods()) {
-            if (m.getName().equals(name) && java.lang.reflect.Modifier.isPublic(m.getModifiers())) {
-                return m;
-            }
-        }
-        throw new IllegalStateException(name);
     }
 
     private static Object[] numbersFor(Shape shape, int count, Random random, int wildness) {
