@@ -148,7 +148,10 @@ public final class RefusedTests {
         for (int s = 0; s < 6; s++) {
             due.is("2 its number", x.sort(0, 1, 0, 1, 0), s);
         }
+        x.plant(0, 1, 0, 0);
+        x.best();
         due.is("2 FULL: there are 6", x.sort(0, 1, 0, 1, 0), Due.FULL);
+        due.is("29 a refused sort() lets the giving stand", x.given(0), 0);
         due.is("2 FULL again", x.sort(2000, 9, 2000, 60, 9), Due.FULL);
         due.is("2 BEYOND ahead of FULL: the first number", x.sort(-1, 1, 0, 1, 0), Due.BEYOND);
         due.is("2 BEYOND ahead of FULL: the last number", x.sort(0, 1, 0, 1, 10), Due.BEYOND);
