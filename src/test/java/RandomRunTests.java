@@ -3,10 +3,11 @@ import java.util.Arrays;
 import java.util.List;
 import java.util.Random;
 
-/** Runs of 512 calls, ordinary and wild ones, on OrchardBook and on PlainBook: their answers are the same. */
+/** Runs of as many calls as an object is for, ordinary and wild ones: OrchardBook and PlainBook answer the same. */
 public final class RandomRunTests {
-    private static final int RUNS = 600;
-    private static final int CALLS = 512;
+    private static final int RUNS = 700;
+    private static final int BALANCE_CALLS = 12;
+    private static final int CALLS = 512 - BALANCE_CALLS;
     private static final int[] WILD = {Integer.MIN_VALUE, Integer.MAX_VALUE, -1, -2, 0, 1, 5, 6, 7, 9, 10, 11, 12, 15,
         16, 49, 50, 51, 60, 61, 100, 101, 1000, 1001, 2000, 2001, 65535, -65536};
 
@@ -29,35 +30,81 @@ public final class RandomRunTests {
         new Shape("all", 6, 0, 9), new Shape("lone", 3, 0, 11), new Shape("best", 1), new Shape("given", 4, 0, 11),
         new Shape("keep", 3), new Shape("back", 3), new Shape("told", 3, 0, 4));
 
+    /** One object and its plain twin, and what both were asked. */
+    private static final class Run {
+        final int seed;
+        final Random random;
+        final OrchardBook book = new OrchardBook();
+        final PlainBook plain = new PlainBook();
+        final List<String> calls = new ArrayList<>();
+
+        Run(int seed) {
+            this.seed = seed;
+            random = new Random(seed);
+        }
+
+        int any(int low, int high) {
+            return low + random.nextInt(high - low + 1);
+        }
+
+        boolean goesOn() {
+            return calls.size() < CALLS && due.wrong() == 0;
+        }
+
+        void ask(String act, Object... numbers) {
+            calls.add(act + Arrays.toString(numbers));
+            long got = Calls.call(book, act, numbers);
+            long want = Calls.call(plain, act, numbers);
+            due.is("run " + seed + ": " + calls.get(calls.size() - 1), got, want);
+        }
+    }
+
     public static void main(String[] args) {
-        for (int run = 0; run < RUNS && due.wrong() == 0; run++) {
-            oneRun(run);
+        for (int seed = 0; seed < RUNS && due.wrong() == 0; seed++) {
+            oneRun(new Run(seed));
         }
         due.end();
     }
 
-    private static void oneRun(int seed) {
-        Random random = new Random(seed);
+    private static void oneRun(Run run) {
         // Some runs hardly ever go wrong, others often.
-        int wildness = seed % 3 == 0 ? 5 : 60;
-        OrchardBook book = new OrchardBook();
-        PlainBook plain = new PlainBook();
-        List<String> calls = new ArrayList<>();
-        for (int k = 0; k < CALLS && due.wrong() == 0; k++) {
-            Shape shape = k < 6 && seed % 5 != 0 ? SHAPES.get(0) : anyShape(random);
+        int wildness = run.seed % 3 == 0 ? 5 : 60;
+        if (run.seed % 2 == 0) {
+            denseOrchard(run);
+        }
+        while (run.goesOn()) {
+            Shape shape = run.calls.size() < 6 && run.seed % 5 != 0 ? SHAPES.get(0) : anyShape(run.random);
             int count = Calls.methodOf(OrchardBook.class, shape.name()).getParameterCount();
-            Object[] numbers = numbersFor(shape, count, random, wildness);
-            calls.add(shape.name() + Arrays.toString(numbers));
-            long got = Calls.call(book, shape.name(), numbers);
-            long want = Calls.call(plain, shape.name(), numbers);
-            due.is("run " + seed + ", call " + k + ": " + calls.get(k), got, want);
-            if (k % 16 == 0) {
-                balance(book, "run " + seed + ", call " + k);
+            run.ask(shape.name(), numbersFor(shape, count, run.random, wildness));
+        }
+        balance(run.book, "run " + run.seed);
+        if (due.wrong() != 0) {
+            System.out.println(run.calls);
+        }
+    }
+
+    /** Near trees that bloom early and years that are through: chance alone seldom comes to a full store. */
+    private static void denseOrchard(Run run) {
+        int sorts = run.any(1, 6);
+        for (int s = 0; s < sorts; s++) {
+            int keeping = run.any(0, 2) == 0 ? 60 : run.any(1, 60);
+            run.ask("sort", run.any(0, 60), run.any(1, 9), run.any(0, 80), keeping, run.any(0, 1));
+        }
+        for (int a = 0; a < sorts; a++) {
+            for (int b = 0; b < sorts; b++) {
+                run.ask("takes", a, b, run.any(0, 3) != 0);
             }
         }
-        if (due.wrong() != 0) {
-            System.out.println(calls);
+        run.ask("distance", run.any(5, 15));
+        for (int place = 0; place < 12; place++) {
+            run.ask("plant", place, run.any(1, 4), run.any(0, sorts - 1), run.any(0, sorts - 1));
         }
+        run.ask("hours", run.any(0, 1000));
+        int years = run.any(0, 3);
+        for (int k = 0; k < years; k++) {
+            run.ask("go", 50);
+        }
+        run.ask("go", run.any(1, 40));
     }
 
     /** Each fruit that was set is somewhere, and so is each that was picked. */

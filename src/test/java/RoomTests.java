@@ -2,6 +2,8 @@ import java.lang.management.ManagementFactory;
 
 /** All calls of a run live in one room: an object is small, and no call makes anything. */
 public final class RoomTests {
+    /** As many as an object's 512 calls are enough for. */
+    private static final int BUSY_YEARS = 8;
     private static final Due due = new Due();
     private static final com.sun.management.ThreadMXBean THREADS =
         (com.sun.management.ThreadMXBean) ManagementFactory.getThreadMXBean();
@@ -13,11 +15,11 @@ public final class RoomTests {
         long object = made() - start;
         due.holds("an object of " + object + " bytes", object < 40_000);
         start = made();
-        for (int k = 0; k < 20; k++) {
+        for (int k = 0; k < BUSY_YEARS; k++) {
             busyYear(x);
         }
         long calls = made() - start;
-        due.holds("calls made " + calls + " bytes", calls < 1_000);
+        due.holds("calls made " + calls + " bytes", calls < 400);
         due.end();
     }
 

@@ -174,12 +174,14 @@ public final class YearSentencesTests {
     private static void warmthOfBounds() {
         OrchardBook x = new OrchardBook();
         x.sheet(0, 1, 1);
-        x.sheet(1, 2, 1);
+        x.name(0);
         for (int v = -2; v <= 63; v++) {
-            x.name(0);
             x.put(0, 0, v);
             due.is("the short " + v, x.warmth(0), Math.max(0, Math.min(60, v)));
-            x.name(1);
+        }
+        x.sheet(1, 2, 1);
+        x.name(1);
+        for (int v = -2; v <= 63; v++) {
             x.put(1, 0, bits(v));
             due.is("the float " + v, x.warmth(0), Math.max(0, Math.min(60, v)));
             x.put(1, 0, bits(Math.nextDown((float) v)));
